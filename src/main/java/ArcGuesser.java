@@ -33,10 +33,9 @@ public final class ArcGuesser {
     private static final int NODE_SHIFT = 16;
 
     /**
-     * Every measure of every graph of 12 nodes is a whole number of parts of this size: it is the
-     * least number that 1 to 22 (two neighbourhoods added up), and each product of two node counts
-     * that may stand below a line, divide. A MIX in such parts stays below 2 to the 59, so exact
-     * fractions are compared and added up as longs.
+     * A common denominator of all measures of all graphs: 1 to 22 (the sizes of A and B added up)
+     * and all products of two degrees or two group sizes divide it. A MIX over it stays below 2 to
+     * the 59, so exact fractions are added up and compared as longs, and no call makes an object.
      */
     private static final long SCALE = 64L * 81 * 25 * 49 * 121 * 13 * 17 * 19;
 
@@ -380,13 +379,17 @@ public final class ArcGuesser {
             if (sort != TWO_SIDED) {
                 return in[b];
             }
+            return leadsFrom(in[b]) & ~(1 << b);
+        }
+
+        private int leadsFrom(int set) {
             int reached = 0;
             for (int x = 0; x < nodes; x++) {
-                if (has(in[b], x)) {
+                if (has(set, x)) {
                     reached |= out[x];
                 }
             }
-            return reached & ~(1 << b);
+            return reached;
         }
 
         private int membersOf(int group) {
@@ -506,19 +509,9 @@ public final class ArcGuesser {
                 if (Net.has(reached, b)) {
                     return arcs;
                 }
-                reached |= leadsFrom(reached);
+                reached |= net.leadsFrom(reached);
             }
             return 0;
-        }
-
-        private int leadsFrom(int set) {
-            int reached = 0;
-            for (int x = 0; x < net.nodes; x++) {
-                if (Net.has(set, x)) {
-                    reached |= net.out[x];
-                }
-            }
-            return reached;
         }
 
         private long wander(int a, int b) {
