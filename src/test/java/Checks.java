@@ -8,6 +8,12 @@ final class Checks {
         part = name;
     }
 
+    /** Names a test after a sentence of the document, which must stand there. */
+    void sentence(Document document, String section, String sentence) {
+        part(section + " \"" + sentence + "\"");
+        holds("the document says so", document.says(section, sentence));
+    }
+
     void due(String call, long got, long want) {
         seen++;
         if (got != want) {

@@ -54,9 +54,9 @@ public final class LanguageTest {
     }
 
     private static String signature(Method method) {
+        String start = method.getReturnType().getSimpleName() + " " + method.getName() + "(";
         return Arrays.stream(method.getParameterTypes()).map(Class::getSimpleName)
-                .collect(Collectors.joining(", ",
-                        method.getReturnType().getSimpleName() + " " + method.getName() + "(", ")"));
+                .collect(Collectors.joining(", ", start, ")"));
     }
 
     private static void isPrivate(Member member) {

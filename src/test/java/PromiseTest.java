@@ -41,27 +41,6 @@ public final class PromiseTest {
         CHECKS.due(call, got, want);
     }
 
-    private static ArcGuesser graphOf(int n, int sort, int... ends) {
-        ArcGuesser x = new ArcGuesser();
-        x.graph(n, sort);
-        for (int i = 0; i + 1 < ends.length; i += 2) {
-            due("arc number " + (i / 2 + 1), x.arc(ends[i], ends[i + 1], i / 2), i / 2 + 1);
-        }
-        return x;
-    }
-
-    /** All pairs of a graph, each with an arc; the time is 0. */
-    private static ArcGuesser fullGraph(int n, int sort) {
-        ArcGuesser x = new ArcGuesser();
-        x.graph(n, sort);
-        for (int a = 0; a < n; a++) {
-            for (int b = 0; b < n; b++) {
-                x.arc(a, b, 0);
-            }
-        }
-        return x;
-    }
-
     private static void promise1NewObject() {
         CHECKS.part("promise 1");
         ArcGuesser x = new ArcGuesser();
@@ -108,7 +87,7 @@ public final class PromiseTest {
 
     private static void promise2AllAsAtFirst() {
         CHECKS.part("promise 2, all as at first");
-        ArcGuesser x = graphOf(3, 0, 0, 1, 1, 2, 0, 2);
+        ArcGuesser x = Graphs.of(3, 0, 0, 1, 1, 2, 0, 2);
         x.paths(5, 6, 1);
         x.group(0, 3);
         x.weigh(0, -7);
@@ -171,14 +150,14 @@ public final class PromiseTest {
         due("arc(3, 2, 0) of two right ones", x.arc(3, 2, 0), -1);
         due("arc(2, 1, 0)", x.arc(2, 1, 0), 1);
         due("arc(1, 2, 0)", x.arc(1, 2, 0), -3);
-        due("count(2) of all", fullGraph(12, 1).count(2), 132);
-        due("count(2) of all", fullGraph(12, 0).count(2), 66);
-        due("count(2) of all", fullGraph(12, 2).count(2), 36);
+        due("count(2) of all", Graphs.full(12, 1).count(2), 132);
+        due("count(2) of all", Graphs.full(12, 0).count(2), 66);
+        due("count(2) of all", Graphs.full(12, 2).count(2), 36);
     }
 
     private static void promise4Group() {
         CHECKS.part("promise 4");
-        ArcGuesser x = graphOf(4, 0, 0, 1, 0, 2);
+        ArcGuesser x = Graphs.of(4, 0, 0, 1, 0, 2);
         due("group(0, 3)", x.group(0, 3), 0);
         due("group(0, 1)", x.group(0, 1), 3);
         due("group(0, 1)", x.group(0, 1), 1);
@@ -197,7 +176,7 @@ public final class PromiseTest {
 
     private static void promise5Hide() {
         CHECKS.part("promise 5");
-        ArcGuesser x = graphOf(4, 0, 0, 1, 1, 2);
+        ArcGuesser x = Graphs.of(4, 0, 0, 1, 1, 2);
         CHECKS.scored(x, 0, 2, 0, 1, 1);
         due("hide(1, 0, true)", x.hide(1, 0, true), 0);
         due("hide(0, 1, true)", x.hide(0, 1, true), 1);
@@ -217,7 +196,7 @@ public final class PromiseTest {
             due("hide(0, " + far + ", true)", x.hide(0, far, true), -1);
         }
         due("count(3) after refusals", x.count(3), 0);
-        ArcGuesser ways = graphOf(3, 1, 0, 1);
+        ArcGuesser ways = Graphs.of(3, 1, 0, 1);
         due("hide(1, 0, true) with ways", ways.hide(1, 0, true), -1);
         due("hide(0, 1, true) with ways", ways.hide(0, 1, true), 0);
     }
@@ -247,7 +226,7 @@ public final class PromiseTest {
     /** From seed 0 the draws leave 2 0 2 1 1 1 by 3; the third comes from a z below 0. */
     private static void promise7Split() {
         CHECKS.part("promise 7");
-        ArcGuesser x = graphOf(4, 0, 2, 3, 0, 1, 1, 3, 0, 2, 0, 3, 1, 2);
+        ArcGuesser x = Graphs.of(4, 0, 2, 3, 0, 1, 1, 3, 0, 2, 0, 3, 1, 2);
         due("split(0, 3, 2)", x.split(0, 3, 2), 2);
         due("hide(2, 3, true): first", x.hide(2, 3, true), 1);
         due("hide(0, 1, false): second", x.hide(0, 1, false), 0);
@@ -274,7 +253,7 @@ public final class PromiseTest {
 
     private static void promise8Count() {
         CHECKS.part("promise 8");
-        ArcGuesser x = graphOf(5, 1, 0, 1, 1, 0, 3, 4);
+        ArcGuesser x = Graphs.of(5, 1, 0, 1, 1, 0, 3, 4);
         x.hide(1, 0, true);
         due("count(0)", x.count(0), 5);
         due("count(1)", x.count(1), 20);
@@ -285,13 +264,13 @@ public final class PromiseTest {
         for (int far : FAR) {
             due("count(" + far + ")", x.count(far), -2);
         }
-        due("count(4) of all", fullGraph(12, 1).count(4), 0);
+        due("count(4) of all", Graphs.full(12, 1).count(4), 0);
     }
 
     /** In a triangle one way of two ARCS and three of three lead from one node to another. */
     private static void promise9Paths() {
         CHECKS.part("promise 9");
-        ArcGuesser x = graphOf(3, 0, 0, 1, 1, 2, 0, 2);
+        ArcGuesser x = Graphs.of(3, 0, 0, 1, 1, 2, 0, 2);
         due("paths(0, 0, 1)", x.paths(0, 0, 1), 1);
         CHECKS.scored(x, 0, 1, 7, 0, 1);
         CHECKS.scored(x, 0, 1, 9, 1, 2);
@@ -315,7 +294,7 @@ public final class PromiseTest {
 
     private static void promise10Weigh() {
         CHECKS.part("promise 10");
-        ArcGuesser x = graphOf(3, 0, 0, 1, 1, 2);
+        ArcGuesser x = Graphs.of(3, 0, 0, 1, 1, 2);
         due("weigh(0, 99)", x.weigh(0, 99), 101);
         due("weigh(0, -99)", x.weigh(0, -99), 199);
         due("weigh(0, 2)", x.weigh(0, 2), 1);
@@ -362,7 +341,7 @@ public final class PromiseTest {
      */
     private static void promise12Plain() {
         CHECKS.part("promise 12, plain");
-        ArcGuesser x = graphOf(6, 0, 0, 1, 0, 2, 0, 3, 1, 4, 4, 2, 5, 4, 3, 5);
+        ArcGuesser x = Graphs.of(6, 0, 0, 1, 0, 2, 0, 3, 1, 4, 4, 2, 5, 4, 3, 5);
         due("hide(3, 5, true)", x.hide(3, 5, true), 0);
         x.group(4, 2);
         x.group(5, 2);
@@ -386,7 +365,7 @@ public final class PromiseTest {
     /** ARCS 0-1 0-2 1-3 2-3 2-0 4-3, and 3-0 HIDDEN: nothing leads from 3, nothing to 4. */
     private static void promise12WithWays() {
         CHECKS.part("promise 12, with ways");
-        ArcGuesser x = graphOf(5, 1, 0, 1, 0, 2, 1, 3, 2, 3, 2, 0, 4, 3, 3, 0);
+        ArcGuesser x = Graphs.of(5, 1, 0, 1, 0, 2, 1, 3, 2, 3, 2, 0, 4, 3, 3, 0);
         x.hide(3, 0, true);
         x.group(0, 1);
         x.group(2, 1);
@@ -410,7 +389,7 @@ public final class PromiseTest {
      */
     private static void promise12TwoSided() {
         CHECKS.part("promise 12, two-sided");
-        ArcGuesser x = graphOf(7, 2, 0, 3, 4, 0, 1, 4, 1, 5, 2, 5, 2, 6);
+        ArcGuesser x = Graphs.of(7, 2, 0, 3, 4, 0, 1, 4, 1, 5, 2, 5, 2, 6);
         x.hide(6, 2, true);
         x.group(0, 3);
         x.group(4, 3);
@@ -432,7 +411,7 @@ public final class PromiseTest {
         CHECKS.part("promise 12, no ARCS");
         for (int sort = 0; sort <= 2; sort++) {
             for (int n = 2; n <= 12; n++) {
-                ArcGuesser x = graphOf(n, sort);
+                ArcGuesser x = Graphs.of(n, sort);
                 for (int measure = 0; measure <= 11; measure++) {
                     CHECKS.scored(x, 0, n - 1, measure, 0, 1);
                 }
@@ -474,7 +453,7 @@ public final class PromiseTest {
 
     private static void promise12Fullest() {
         CHECKS.part("promise 12, all ARCS");
-        ArcGuesser x = fullGraph(12, 1);
+        ArcGuesser x = Graphs.full(12, 1);
         x.paths(9, 9, 2);
         scoredAll(x, 0, 1, 10, 1, 5, 6, 10, 11, 10, 11, 10, 11, 10, 11, 121, 1, 1089, 1, 1, 1,
                 10, 121, 11, 12);
@@ -486,14 +465,14 @@ public final class PromiseTest {
             x.weigh(measure, -99);
         }
         CHECKS.scored(x, 0, 11, 11, -5342499, 44);
-        ArcGuesser least = fullGraph(2, 0);
+        ArcGuesser least = Graphs.full(2, 0);
         least.paths(1, 1, 1);
         scoredAll(least, 0, 1, 0, 1, 0, 1, 0, 1, 0, 1, 0, 1, 0, 1, 1, 1, 1, 1, 1, 1, 1, 1, 1, 2);
     }
 
     private static void promise12Refused() {
         CHECKS.part("promise 12, refused");
-        ArcGuesser x = graphOf(4, 0, 0, 1, 1, 2, 2, 3);
+        ArcGuesser x = Graphs.of(4, 0, 0, 1, 1, 2, 2, 3);
         CHECKS.scored(x, 0, 2, 2, 2, 3);
         due("score(0, 0, 0)", x.score(0, 0, 0), -1);
         due("score(0, 4, 0)", x.score(0, 4, 0), -1);
@@ -512,7 +491,7 @@ public final class PromiseTest {
 
     private static void promises13And14Board() {
         CHECKS.part("promises 13 and 14");
-        ArcGuesser x = graphOf(4, 0, 0, 1, 1, 2, 2, 3);
+        ArcGuesser x = Graphs.of(4, 0, 0, 1, 1, 2, 2, 3);
         x.weigh(0, 0);
         x.weigh(2, -6);
         CHECKS.scored(x, 0, 2, 11, -4, 1);
@@ -543,11 +522,11 @@ public final class PromiseTest {
 
     private static void promise15Ranked() {
         CHECKS.part("promise 15");
-        rankedDue(graphOf(4, 0), 1, 2, 3, 18, 19, 35);
-        rankedDue(graphOf(3, 1), 1, 2, 16, 18, 32, 33);
-        rankedDue(graphOf(5, 2), 2, 3, 4, 18, 19, 20);
-        rankedDue(fullGraph(12, 1));
-        ArcGuesser x = graphOf(5, 0, 0, 1, 1, 2, 2, 3, 0, 4);
+        rankedDue(Graphs.of(4, 0), 1, 2, 3, 18, 19, 35);
+        rankedDue(Graphs.of(3, 1), 1, 2, 16, 18, 32, 33);
+        rankedDue(Graphs.of(5, 2), 2, 3, 4, 18, 19, 20);
+        rankedDue(Graphs.full(12, 1));
+        ArcGuesser x = Graphs.of(5, 0, 0, 1, 1, 2, 2, 3, 0, 4);
         // Common ones: (0, 2) by 1, (1, 3) by 2, (1, 4) by 0; none of (0, 3) (2, 4) (3, 4).
         rankedDue(x, 2, 19, 20, 3, 36, 52);
         x.hide(0, 4, true);
@@ -563,7 +542,7 @@ public final class PromiseTest {
 
     private static void promise16Place() {
         CHECKS.part("promise 16");
-        ArcGuesser x = graphOf(5, 0, 0, 1, 1, 2, 2, 3, 0, 4);
+        ArcGuesser x = Graphs.of(5, 0, 0, 1, 1, 2, 2, 3, 0, 4);
         x.hide(0, 4, true);
         due("place(0, 2)", x.place(0, 2), 0);
         due("place(3, 1)", x.place(3, 1), 1);
@@ -578,14 +557,14 @@ public final class PromiseTest {
             due("place(" + far + ", 0)", x.place(far, 0), -1);
             due("place(0, " + far + ")", x.place(0, far), -1);
         }
-        ArcGuesser ways = graphOf(3, 1, 0, 1);
+        ArcGuesser ways = Graphs.of(3, 1, 0, 1);
         due("place(1, 0) with ways", ways.place(1, 0), 1);
         due("place(0, 1) with ways", ways.place(0, 1), -3);
     }
 
     private static void promise17Among() {
         CHECKS.part("promise 17");
-        ArcGuesser x = graphOf(5, 0, 0, 1, 1, 2, 2, 3, 0, 4, 1, 3);
+        ArcGuesser x = Graphs.of(5, 0, 0, 1, 1, 2, 2, 3, 0, 4, 1, 3);
         due("among(5): nothing is FOUND", x.among(5), 0);
         due("among(6)", x.among(6), -2);
         x.hide(0, 4, true);
@@ -599,8 +578,8 @@ public final class PromiseTest {
         for (int far : FAR) {
             due("among(" + far + ")", x.among(far), -2);
         }
-        due("among(0) of no CANDIDATES", fullGraph(4, 0).among(0), 0);
-        due("among(1) of no CANDIDATES", fullGraph(4, 0).among(1), -2);
+        due("among(0) of no CANDIDATES", Graphs.full(4, 0).among(0), 0);
+        due("among(1) of no CANDIDATES", Graphs.full(4, 0).among(1), -2);
     }
 
     private static void shareDue(ArcGuesser x, long above, long below) {
@@ -610,7 +589,7 @@ public final class PromiseTest {
 
     private static void promise18Share() {
         CHECKS.part("promise 18");
-        ArcGuesser x = graphOf(5, 0, 0, 1, 1, 2, 2, 3, 0, 4, 1, 3);
+        ArcGuesser x = Graphs.of(5, 0, 0, 1, 1, 2, 2, 3, 0, 4, 1, 3);
         CHECKS.scored(x, 0, 3, 1, 1, 3);
         due("share(): nothing FOUND", x.share(), -3);
         CHECKS.board("share(), refused", x, 1, 3);
@@ -626,11 +605,11 @@ public final class PromiseTest {
         x.hide(0, 4, false);
         // (0, 2) has 1, (1, 3) has 2 and (1, 4) has 0 in common.
         shareDue(x, 4, 5);
-        ArcGuesser full = fullGraph(3, 1);
+        ArcGuesser full = Graphs.full(3, 1);
         due("share(): nothing FOUND, nothing EMPTY", full.share(), -3);
         full.since(0);
         due("share(): nothing EMPTY", full.share(), -3);
-        ArcGuesser least = graphOf(3, 2, 0, 1);
+        ArcGuesser least = Graphs.of(3, 2, 0, 1);
         least.since(0);
         shareDue(least, 1, 2);
     }
@@ -647,7 +626,7 @@ public final class PromiseTest {
      */
     private static void promise19Sample() {
         CHECKS.part("promise 19");
-        ArcGuesser x = graphOf(5, 0, 0, 4, 0, 1, 1, 2, 2, 3, 0, 2);
+        ArcGuesser x = Graphs.of(5, 0, 0, 4, 0, 1, 1, 2, 2, 3, 0, 2);
         due("sample(0): nothing FOUND", x.sample(0), -3);
         x.hide(0, 2, true);
         x.hide(0, 4, true);
@@ -664,7 +643,7 @@ public final class PromiseTest {
         sampleDue(x, 9, 1, 4);
         x.weigh(0, -3);
         sampleDue(x, 9, 3, 4);
-        ArcGuesser full = fullGraph(4, 2);
+        ArcGuesser full = Graphs.full(4, 2);
         full.since(0);
         due("sample(1): nothing EMPTY", full.sample(1), -3);
         CHECKS.board("sample(1), refused", full, 0, 1);
@@ -685,14 +664,14 @@ public final class PromiseTest {
 
     private static void promise20Learn() {
         CHECKS.part("promise 20");
-        ArcGuesser x = graphOf(4, 0, 0, 1, 1, 2, 0, 2);
+        ArcGuesser x = Graphs.of(4, 0, 0, 1, 1, 2, 0, 2);
         x.hide(0, 2, true);
         x.weigh(9, -50);
         learnDue(x, 1, 3, 1, 1);
         weightsDue(x, 1);
         shareDue(x, 1, 1);
         // FOUND is (0, 3) alone, which every measure holds to be less likely than (0, 2).
-        ArcGuesser worse = graphOf(4, 0, 0, 1, 1, 2, 0, 3);
+        ArcGuesser worse = Graphs.of(4, 0, 0, 1, 1, 2, 0, 3);
         worse.hide(0, 3, true);
         shareDue(worse, 1, 3);
         learnDue(worse, 0b111, 3, 1, 2);
@@ -700,7 +679,7 @@ public final class PromiseTest {
         // (0, 2) is FOUND. OUT: 0 has 4; 1 has 4; 2 has 3; 3 has 2; 4 has 0 1. EMPTY are (0, 1)
         // and (0, 3) (1, 2) (1, 3) (2, 4) (3, 4): (0, 1) has 1 of measure 0, the others none.
         // Of measure 6 (0, 2) (0, 1) (0, 3) (1, 2) (1, 3) have 1, (2, 4) and (3, 4) 2.
-        ArcGuesser six = graphOf(5, 0, 0, 4, 1, 4, 2, 3, 0, 2);
+        ArcGuesser six = Graphs.of(5, 0, 0, 4, 1, 4, 2, 3, 0, 2);
         six.hide(0, 2, true);
         learnDue(six, 1 << 6, 2, 1, 2);
         weightsDue(six);
@@ -708,7 +687,7 @@ public final class PromiseTest {
         weightsDue(six);
         // Measures 0 and 6 of the FOUND: (0, 4) 1 and 1, (1, 3) 0 and 2; of the EMPTY: (1, 2) 0
         // and 2, four others 0 and 1. By 2 and 1 (0, 4) is above all, (1, 3) above all but (1, 2).
-        ArcGuesser both = graphOf(5, 0, 0, 1, 1, 4, 2, 3, 0, 4, 1, 3);
+        ArcGuesser both = Graphs.of(5, 0, 0, 1, 1, 4, 2, 3, 0, 4, 1, 3);
         both.since(3);
         learnDue(both, 0b1000001, 1, 9, 10);
         weightsDue(both, 1, 0, 0, 0, 0, 0, 1);
@@ -721,7 +700,7 @@ public final class PromiseTest {
     private static void promise20FirstOfLikeOnes() {
         CHECKS.part("promise 20, the first of like ones");
         // (0, 2) alone has anything of measures 0 and 6: any weight above 0 tells it apart.
-        ArcGuesser x = graphOf(4, 0, 0, 1, 1, 2, 0, 2);
+        ArcGuesser x = Graphs.of(4, 0, 0, 1, 1, 2, 0, 2);
         x.hide(0, 2, true);
         learnDue(x, 0b1000001, 3, 1, 1);
         weightsDue(x, 0, 0, 0, 0, 0, 0, 1);
@@ -741,7 +720,7 @@ public final class PromiseTest {
 
     private static void promise20Refused() {
         CHECKS.part("promise 20, refused");
-        ArcGuesser x = graphOf(4, 0, 0, 1, 1, 2, 0, 2);
+        ArcGuesser x = Graphs.of(4, 0, 0, 1, 1, 2, 0, 2);
         x.weigh(4, 44);
         CHECKS.scored(x, 0, 3, 6, 0, 1);
         CHECKS.scored(x, 0, 1, 9, 1, 4);
@@ -760,7 +739,7 @@ public final class PromiseTest {
         }
         CHECKS.board("learn, refused", x, 1, 4);
         weightsDue(x, 1, 0, 0, 0, 44);
-        ArcGuesser full = fullGraph(4, 0);
+        ArcGuesser full = Graphs.full(4, 0);
         full.since(0);
         due("learn(1, 1): nothing EMPTY", full.learn(1, 1), -3);
         weightsDue(full, 1);
