@@ -159,6 +159,21 @@ public final class PromiseBoundaryTest {
             due("count(4)", full.count(4), PAIRS_OF_TWELVE[sort]);
             CHECKS.scored(full, 0, 11, 6, 0, 1);
         }
+        graphAfterKnownArcs();
+    }
+
+    /** Of what led before, to and from each node, nothing is left over. */
+    private static void graphAfterKnownArcs() {
+        for (int sort = 0; sort <= 2; sort++) {
+            ArcGuesser x = Graphs.full(12, 1);
+            x.graph(12, sort);
+            CHECKS.scored(x, 0, 11, 8, 0, 1);
+            x.arc(0, 11, 0);
+            // Node 5 is a left one, 6 a right one.
+            CHECKS.scored(x, 0, 6, 6, 0, 1);
+            CHECKS.scored(x, 5, 11, 6, 0, 1);
+            CHECKS.scored(x, 0, 11, 6, 1, 1);
+        }
     }
 
     private static void graphAsAtFirst() {

@@ -43,6 +43,7 @@ public final class TermsBoundaryTest {
         numbersOfArcs();
         groups();
         knownArcsAlone();
+        outAndIn();
         bothTheSame();
         candidates();
         foundAndEmpty();
@@ -356,6 +357,29 @@ public final class TermsBoundaryTest {
             CHECKS.scored(x, 0, 3, 8, 1, 1);
             CHECKS.scored(x, 0, 3, 10, 1, sort == 1 ? 16 : 8);
         }
+    }
+
+    /** The node between is the first, the second, the last but one and the last of all. */
+    private static void outAndIn() {
+        terms("OUT(x) are the nodes to which they lead from x,"
+                + " IN(x) those from which they lead to x");
+        for (int z : new int[] {0, 1, 10, 11}) {
+            // OUT(z) is 3 and 4, IN(z) is 2, 5 and 6; OUT(2) is z and 7, IN(3) is z alone.
+            ArcGuesser x = Graphs.of(12, 1, 2, z, z, 3, z, 4, 5, z, 6, z, 2, 7);
+            CHECKS.scored(x, 2, 3, 0, 1, 1);
+            CHECKS.scored(x, 2, 3, 1, 1, 2);
+            CHECKS.scored(x, 2, 3, 5, 1, 2);
+            CHECKS.scored(x, 2, 3, 6, 2, 1);
+            CHECKS.scored(x, 2, 3, 7, 1, 1);
+            CHECKS.scored(x, 2, 3, 8, 1, 2);
+            CHECKS.scored(x, 2, 3, 9, 1, 4);
+            zeroDue(x, 3, 2, 0, 1, 2, 3, 4, 5, 6, 7, 8, 9);
+            CHECKS.scored(x, z, 3, 10, 1, 24);
+        }
+        // By 0 and then 11, and by 11 and then 0, in three ARCS.
+        CHECKS.scored(Graphs.of(12, 1, 2, 0, 0, 11, 11, 3), 2, 3, 7, 1, 1);
+        CHECKS.scored(Graphs.of(12, 1, 2, 11, 11, 0, 0, 3), 2, 3, 7, 1, 1);
+        CHECKS.scored(Graphs.of(12, 1, 2, 0, 0, 11, 11, 3), 3, 2, 7, 0, 1);
     }
 
     private static void bothTheSame() {
